@@ -1,0 +1,61 @@
+import java.util.Objects;
+
+/** Counts the answers that are not due. */
+final class Check {
+    interface Call {
+        Object answer();
+    }
+
+    private static int wrong = 0;
+    private static int done = 0;
+
+    private Check() {
+    }
+
+    static void due(String what, Object got, Object want) {
+        done++;
+        if (!Objects.equals(got, want)) {
+            wrong++;
+            System.out.println(what + " answered " + got + ", due is " + want);
+        }
+    }
+
+    /** The answer of a call, or the class of what it throws. */
+    static Object outcome(Call call) {
+        try {
+            return call.answer();
+        } catch (RuntimeException e) {
+            return e.getClass();
+        }
+    }
+
+    static void refused(String what, Class<? extends RuntimeException> want, Call call) {
+        due(what, outcome(call), want);
+    }
+
+    static String output(HammerDepot depot, int length) {
+        StringBuilder text = new StringBuilder();
+        for (int i = 0; i < length; i++) {
+            text.append(depot.outputAt(i));
+        }
+        return text.toString();
+    }
+
+    static void type(HammerDepot depot, String script) {
+        for (int i = 0; i < script.length(); i++) {
+            depot.type(script.charAt(i));
+        }
+    }
+
+    static Object run(HammerDepot depot, String script) {
+        type(depot, script);
+        return outcome(depot::runScript);
+    }
+
+    static void end() {
+        System.out.println(done + " checks, " + wrong + " wrong");
+        if (wrong != 0) {
+            System.exit(1);
+        }
+    }
+}
