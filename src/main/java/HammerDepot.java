@@ -1591,7 +1591,7 @@ public final class HammerDepot {
         private static final int KINDS = 10;
         private static final int MAX_LENGTH = 60;
         // The shortest command and the semicolon behind it take four characters.
-        private static final int MAX_COMMANDS = MAX_LENGTH / 4 + 1;
+        private static final int MAX_COMMANDS = MAX_LENGTH / 4;
         private static final int MAX_ARGUMENTS = 5;
         private static final int MAX_DIGITS = 3;
 

@@ -50,50 +50,70 @@ public final class ChangesTest {
         Check.due("52 after undoing", d.undo(), 0);
     }
 
-    private static void everyChange() {
+    /** A depot in the midst of its work, with hammer 0 lent and late, hammer 1 worn and hammer 2 booked. */
+    private static HammerDepot busy() {
         HammerDepot d = new HammerDepot();
-        d.addHammer(30, 0);
-        d.addHammer(40, 0);
-        d.moveHammer(0, 1);
-        Check.due("52 moveHammer", d.undo(), 2);
-        Check.due("18 rackOf", d.rackOf(0), 0);
-        Check.due("20 hammerAt", d.hammerAt(0, 0), 0);
-        d.swapPlaces(0, 0, 1);
-        Check.due("52 swapPlaces", d.undo(), 2);
-        Check.due("19 placeOf", d.placeOf(1), 1);
-        d.request(1, 30, 0, 1, 4);
-        Check.due("52 request", d.undo(), 2);
-        Check.due("5 the next id", d.request(1, 30, 0, 1, 4), 0);
-        d.cancelRequest(0);
-        Check.due("52 cancelRequest", d.undo(), 3);
-        Check.due("24 requestAt", d.requestAt(0), 0);
-        d.grant(0);
-        Check.due("52 grant", d.undo(), 3);
-        Check.due("37 coins", d.coins(), 20);
-        Check.due("38 coinsByAccounts", d.coinsByAccounts(), 20);
-        Check.due("21 bookings", d.bookings(0), 0);
-        d.grantMost();
-        Check.due("52 grantMost", d.undo(), 3);
-        Check.due("23 requestCount", d.requestCount(), 1);
-        d.grantMost();
-        d.passDays(6);
-        Check.due("52 passDays", d.undo(), 4);
-        Check.due("41 day", d.day(), 0);
-        Check.due("40 lentTotal", d.lentTotal(), 0);
-        Check.due("15 isLent", d.isLent(0), false);
-        Check.due("22 isBooked", d.isBooked(0, 4), true);
-        d.passDays(6);
-        d.giveBack(0, 100, 2);
-        Check.due("37 coins", d.coins(), 28);
-        Check.due("52 giveBack", d.undo(), 5);
-        Check.due("15 isLent", d.isLent(0), true);
-        Check.due("14 wear", d.wear(0), 0);
-        Check.due("38 coinsByAccounts", d.coinsByAccounts(), 24);
-        d.giveBack(0, 100, 2);
-        d.renewFace(0);
-        Check.due("52 renewFace", d.undo(), 6);
-        Check.due("14 wear", d.wear(0), 10);
-        Check.due("37 coins", d.coins(), 28);
+        for (int i = 0; i < 5; i++) {
+            d.addHammer(30 + 5 * i, i % 2);
+        }
+        d.grant(d.request(1, 30, 0, 1, 2));
+        d.grant(d.request(2, 35, 0, 2, 3));
+        d.grant(d.request(3, 30, 0, 4, 4));
+        d.grant(d.request(4, 40, 0, 8, 9));
+        d.grant(d.request(4, 30, 0, 7, 7));
+        d.passDays(3);
+        d.giveBack(1, 444, 1);
+        d.passDays(2);
+        d.request(5, 45, 0, 7, 8);
+        d.request(6, 50, 12, 9, 9);
+        return d;
+    }
+
+    private static void oneChange(String what, java.util.function.Consumer<HammerDepot> change, boolean isSeen) {
+        HammerDepot d = busy();
+        String before = Check.face(d);
+        change.accept(d);
+        Check.due("52 seen " + what, !Check.face(d).equals(before), isSeen);
+        Check.due("52 left after " + what, d.undo(), 7);
+        Check.due("52 state after " + what, Check.face(d), before);
+        Check.due("52 next id after " + what, d.request(0, 0, 0, 6, 6), 7);
+        d.undo();
+        d.save();
+        change.accept(d);
+        d.passDays(9);
+        d.restore();
+        Check.due("54 state after " + what, Check.face(d), before);
+        Check.due("54 next id after " + what, d.request(0, 0, 0, 6, 6), 7);
+    }
+
+    private static void everyChange() {
+        oneChange("addHammer", d -> d.addHammer(1, 2), true);
+        oneChange("moveHammer", d -> d.moveHammer(1, 2), true);
+        oneChange("swapPlaces", d -> d.swapPlaces(0, 1, 4), true);
+        oneChange("swapPlaces of free places", d -> d.swapPlaces(0, 4, 5), false);
+        oneChange("request", d -> d.request(1, 30, 0, 6, 7), true);
+        oneChange("cancelRequest", d -> d.cancelRequest(5), true);
+        oneChange("grant", d -> d.grant(6), true);
+        oneChange("grantMost", d -> d.grantMost(), true);
+        oneChange("giveBack", d -> d.giveBack(0, 100, 2), true);
+        oneChange("renewFace", d -> d.renewFace(1), true);
+        oneChange("renewFace for nothing", d -> d.renewFace(2), false);
+        oneChange("passDays", d -> d.passDays(2), true);
+        oneChange("runScript", d -> Check.run(d, "face 1;day 3;most"), true);
+    }
+
+    /** A refused change must not cost the oldest of the eight that can be undone. */
+    private static void refusedWhenFull() {
+        HammerDepot d = new HammerDepot();
+        for (int i = 0; i < 9; i++) {
+            d.addHammer(i, i % 3);
+        }
+        Check.refused("2 pitch", IllegalArgumentException.class, () -> d.addHammer(99, 0));
+        Check.due("49 failure", Check.run(d, "day 5;day 0"), STATE);
+        for (int left = 7; left >= 0; left--) {
+            Check.due("52 left", d.undo(), left);
+            Check.due("52 hammers", d.hammerCount(), left + 1);
+        }
     }
 
     private static void whatIsNoChange() {
@@ -190,6 +210,7 @@ public final class ChangesTest {
         rendering();
         undo();
         everyChange();
+        refusedWhenFull();
         whatIsNoChange();
         whatUndoLeaves();
         snapshot();

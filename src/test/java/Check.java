@@ -52,6 +52,32 @@ final class Check {
         return outcome(depot::runScript);
     }
 
+    /** All that can be read of a depot, but its output text, which this replaces. */
+    static String face(HammerDepot d) {
+        StringBuilder text = new StringBuilder();
+        text.append(d.day()).append(' ').append(d.coins()).append(' ').append(d.coinsByAccounts()).append(' ');
+        text.append(d.brokenTotal()).append(' ').append(d.lentTotal()).append('\n');
+        for (int rack = 0; rack < 3; rack++) {
+            text.append(output(d, d.renderRack(rack))).append('\n');
+        }
+        for (int hammer = 0; hammer < d.hammerCount(); hammer++) {
+            text.append(output(d, d.renderHammer(hammer))).append(" b").append(d.bookings(hammer)).append(':');
+            for (int day = d.day(); day <= d.day() + 40; day++) {
+                text.append(d.isBooked(hammer, day) ? '1' : '0');
+            }
+            text.append('\n');
+        }
+        for (int position = 0; position < d.requestCount(); position++) {
+            int id = d.requestAt(position);
+            text.append(id).append(" fits");
+            for (int hammer = 0; hammer < d.hammerCount(); hammer++) {
+                text.append(d.fits(id, hammer) ? '1' : '0');
+            }
+            text.append('\n');
+        }
+        return text.toString();
+    }
+
     static void end() {
         System.out.println(done + " checks, " + wrong + " wrong");
         if (wrong != 0) {

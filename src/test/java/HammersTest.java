@@ -150,6 +150,7 @@ public final class HammersTest {
         Check.due("43 lentShare", d.lentShare(), 1.0f / 4.0f);
         d.giveBack(3, 70, 0);
         lend(d, 0, 30);
+        Check.due("43 the first hammer", d.lentShare(), 0.25f);
         d.giveBack(0, 39, 0);
         int[] byWear = {3, 0, 1, 2};
         for (int rank = 0; rank < 4; rank++) {

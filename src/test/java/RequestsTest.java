@@ -67,6 +67,30 @@ public final class RequestsTest {
         Check.due("23 requestCount", d.requestCount(), 2);
     }
 
+    /** The requests behind one that is cancelled keep all that they ask for. */
+    private static void movedUp() {
+        HammerDepot d = withHammers(30, 35);
+        d.request(0, 1, 2, 3, 3);
+        d.request(7, 32, 2, 2, 4);
+        Check.due("25 by tolerance", d.fits(1, 1), false);
+        d.cancelRequest(0);
+        Check.due("25 by tolerance", d.fits(1, 1), false);
+        Check.due("25 by tolerance", d.fits(1, 0), true);
+        Check.due("7 grant", d.grant(1), 0);
+        Check.due("22 isBooked", d.isBooked(0, 1), false);
+        Check.due("22 isBooked", d.isBooked(0, 2), true);
+        Check.due("22 isBooked", d.isBooked(0, 4), true);
+        d.passDays(2);
+        Check.due("16 borrower", d.borrower(0), 7);
+        HammerDepot e = withHammers(30, 41);
+        e.request(0, 1, 0, 3, 3);
+        e.request(0, 30, 12, 3, 3);
+        Check.due("28 by itself", e.mostGrantsBySets(), 1);
+        e.cancelRequest(0);
+        Check.due("25 by tolerance", e.fits(1, 1), true);
+        Check.due("28 by itself", e.mostGrantsBySets(), 1);
+    }
+
     private static void fits() {
         HammerDepot d = withHammers(30, 36, 42);
         d.request(1, 36, 6, 3, 5);
@@ -256,6 +280,7 @@ public final class RequestsTest {
     public static void main(String[] args) {
         request();
         cancelRequest();
+        movedUp();
         fits();
         wornOut();
         bookingOutlastsWear();

@@ -42,6 +42,7 @@ public final class SoundTest {
         Check.due("30 strengthened", d.loudestPitch(2), 30);
         Check.refused("30 rack 3", INDEX, () -> d.loudestPitch(3));
         Check.refused("30 rack -1", INDEX, () -> d.loudestPitch(-1));
+        Check.due("30 the lowest pitch of all", withHammers(0).loudestPitch(0), 0);
         d.moveHammer(0, 1);
         Check.refused("30 empty", ELEMENT, () -> d.loudestPitch(0));
     }
