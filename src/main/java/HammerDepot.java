@@ -877,7 +877,7 @@ public final class HammerDepot {
 
         int countOf(int hammer) {
             int found = 0;
-            for (int booking = 0; has(booking); booking++) {
+            for (int booking = 0; booking < count && has(booking); booking++) {
                 if (hammers[booking] == hammer) {
                     found++;
                 }
@@ -887,7 +887,7 @@ public final class HammerDepot {
 
         /** Whether a booking of the hammer has a day from firstDay to lastDay. */
         boolean meets(int hammer, int firstDay, int lastDay) {
-            for (int booking = 0; has(booking); booking++) {
+            for (int booking = 0; booking < count && has(booking); booking++) {
                 if (hammers[booking] == hammer && firstDays[booking] <= lastDay && lastDays[booking] >= firstDay) {
                     return true;
                 }
@@ -897,7 +897,7 @@ public final class HammerDepot {
 
         /** The oldest booking that begins on the day, or NONE. */
         int beginningOn(int day) {
-            for (int booking = 0; has(booking); booking++) {
+            for (int booking = 0; booking < count && has(booking); booking++) {
                 if (firstDays[booking] == day) {
                     return booking;
                 }
@@ -1525,15 +1525,24 @@ public final class HammerDepot {
             if (swaps <= 0 || wrong > 2 * swaps) {
                 return false;
             }
-            for (int first = 0; first < PLACES; first++) {
-                for (int second = first + 1; second < PLACES; second++) {
-                    int next = swapped(code, first, second);
-                    if (next != code && canSort(next, swaps - 1)) {
-                        return true;
-                    }
+            // Some swap moves this hammer, and the same number of swaps sorts the rack if that one comes first.
+            int first = firstMisplaced(code);
+            for (int second = 0; second < PLACES; second++) {
+                int next = swapped(code, first, second);
+                if (next != code && canSort(next, swaps - 1)) {
+                    return true;
                 }
             }
             return false;
+        }
+
+        private static int firstMisplaced(int code) {
+            for (int place = 0; place < PLACES; place++) {
+                if (isMisplaced(contentAt(code, place), place)) {
+                    return place;
+                }
+            }
+            return 0;
         }
 
         private static int swapped(int code, int first, int second) {

@@ -50,58 +50,6 @@ public final class ChangesTest {
         Check.due("52 after undoing", d.undo(), 0);
     }
 
-    /** A depot in the midst of its work, with hammer 0 lent and late, hammer 1 worn and hammer 2 booked. */
-    private static HammerDepot busy() {
-        HammerDepot d = new HammerDepot();
-        for (int i = 0; i < 5; i++) {
-            d.addHammer(30 + 5 * i, i % 2);
-        }
-        d.grant(d.request(1, 30, 0, 1, 2));
-        d.grant(d.request(2, 35, 0, 2, 3));
-        d.grant(d.request(3, 30, 0, 4, 4));
-        d.grant(d.request(4, 40, 0, 8, 9));
-        d.grant(d.request(4, 30, 0, 7, 7));
-        d.passDays(3);
-        d.giveBack(1, 444, 1);
-        d.passDays(2);
-        d.request(5, 45, 0, 7, 8);
-        d.request(6, 50, 12, 9, 9);
-        return d;
-    }
-
-    private static void oneChange(String what, java.util.function.Consumer<HammerDepot> change, boolean isSeen) {
-        HammerDepot d = busy();
-        String before = Check.face(d);
-        change.accept(d);
-        Check.due("52 seen " + what, !Check.face(d).equals(before), isSeen);
-        Check.due("52 left after " + what, d.undo(), 7);
-        Check.due("52 state after " + what, Check.face(d), before);
-        Check.due("52 next id after " + what, d.request(0, 0, 0, 6, 6), 7);
-        d.undo();
-        d.save();
-        change.accept(d);
-        d.passDays(9);
-        d.restore();
-        Check.due("54 state after " + what, Check.face(d), before);
-        Check.due("54 next id after " + what, d.request(0, 0, 0, 6, 6), 7);
-    }
-
-    private static void everyChange() {
-        oneChange("addHammer", d -> d.addHammer(1, 2), true);
-        oneChange("moveHammer", d -> d.moveHammer(1, 2), true);
-        oneChange("swapPlaces", d -> d.swapPlaces(0, 1, 4), true);
-        oneChange("swapPlaces of free places", d -> d.swapPlaces(0, 4, 5), false);
-        oneChange("request", d -> d.request(1, 30, 0, 6, 7), true);
-        oneChange("cancelRequest", d -> d.cancelRequest(5), true);
-        oneChange("grant", d -> d.grant(6), true);
-        oneChange("grantMost", d -> d.grantMost(), true);
-        oneChange("giveBack", d -> d.giveBack(0, 100, 2), true);
-        oneChange("renewFace", d -> d.renewFace(1), true);
-        oneChange("renewFace for nothing", d -> d.renewFace(2), false);
-        oneChange("passDays", d -> d.passDays(2), true);
-        oneChange("runScript", d -> Check.run(d, "face 1;day 3;most"), true);
-    }
-
     /** A refused change must not cost the oldest of the eight that can be undone. */
     private static void refusedWhenFull() {
         HammerDepot d = new HammerDepot();
@@ -209,7 +157,6 @@ public final class ChangesTest {
     public static void main(String[] args) {
         rendering();
         undo();
-        everyChange();
         refusedWhenFull();
         whatIsNoChange();
         whatUndoLeaves();

@@ -8,15 +8,21 @@ final class Check {
 
     private static int wrong = 0;
     private static int done = 0;
+    private static String topic = "";
 
     private Check() {
+    }
+
+    /** What the labels of the checks that follow begin with. */
+    static void about(String newTopic) {
+        topic = newTopic;
     }
 
     static void due(String what, Object got, Object want) {
         done++;
         if (!Objects.equals(got, want)) {
             wrong++;
-            System.out.println(what + " answered " + got + ", due is " + want);
+            System.out.println(topic + what + " answered " + got + ", due is " + want);
         }
     }
 
@@ -52,25 +58,29 @@ final class Check {
         return outcome(depot::runScript);
     }
 
-    /** All that can be read of a depot, but its output text, which this replaces. */
+    /** All that undo and the snapshot cover, as far as it can be read; the output text is another one afterwards. */
     static String face(HammerDepot d) {
         StringBuilder text = new StringBuilder();
-        text.append(d.day()).append(' ').append(d.coins()).append(' ').append(d.coinsByAccounts()).append(' ');
+        int today = d.day();
+        text.append(today).append(' ').append(d.coins()).append(' ').append(d.coinsByAccounts()).append(' ');
         text.append(d.brokenTotal()).append(' ').append(d.lentTotal()).append('\n');
         for (int rack = 0; rack < 3; rack++) {
             text.append(output(d, d.renderRack(rack))).append('\n');
         }
-        for (int hammer = 0; hammer < d.hammerCount(); hammer++) {
-            text.append(output(d, d.renderHammer(hammer))).append(" b").append(d.bookings(hammer)).append(':');
-            for (int day = d.day(); day <= d.day() + 40; day++) {
+        int hammers = d.hammerCount();
+        for (int hammer = 0; hammer < hammers; hammer++) {
+            int bookings = d.bookings(hammer);
+            text.append(output(d, d.renderHammer(hammer))).append(" b").append(bookings).append(':');
+            for (int day = today; bookings > 0 && day <= today + 9; day++) {
                 text.append(d.isBooked(hammer, day) ? '1' : '0');
             }
             text.append('\n');
         }
-        for (int position = 0; position < d.requestCount(); position++) {
+        int requests = d.requestCount();
+        for (int position = 0; position < requests; position++) {
             int id = d.requestAt(position);
             text.append(id).append(" fits");
-            for (int hammer = 0; hammer < d.hammerCount(); hammer++) {
+            for (int hammer = 0; hammer < hammers; hammer++) {
                 text.append(d.fits(id, hammer) ? '1' : '0');
             }
             text.append('\n');

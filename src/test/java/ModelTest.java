@@ -3,14 +3,16 @@ import java.util.List;
 
 /** Compares long runs of calls with the Model, for all promises together. */
 public final class ModelTest {
-    private static final int RUNS = 60;
-    private static final int CALLS = 500;
+    private static final int RUNS = 600;
+    // What a depot answers after so many calls is free.
+    private static final int CALLS = 512;
 
     private final HammerDepot depot = new HammerDepot();
     private final Model model = new Model();
     private final StringBuilder told = new StringBuilder();
     private final int mood;
     private long seed;
+    private int calls = 0;
     private boolean failed = false;
 
     private ModelTest(int run) {
@@ -69,6 +71,10 @@ public final class ModelTest {
     }
 
     private void same(String what, Check.Call mine, Check.Call due) {
+        if (calls == CALLS) {
+            return;
+        }
+        calls++;
         Object got = Check.outcome(mine);
         Object want = Check.outcome(due);
         told.append(what).append(" = ").append(got).append('\n');
@@ -176,6 +182,23 @@ public final class ModelTest {
     }
 
     private void compareAll() {
+        compareNumbers();
+        compareRacks();
+        compareHammers();
+        compareChords();
+        compareRequests();
+    }
+
+    /** The other way round, so that the last parts get their share of the calls too. */
+    private void compareAllBackwards() {
+        compareRequests();
+        compareChords();
+        compareHammers();
+        compareRacks();
+        compareNumbers();
+    }
+
+    private void compareNumbers() {
         same("hammerCount()", depot::hammerCount, model::hammerCount);
         same("requestCount()", depot::requestCount, model::requestCount);
         same("coins()", depot::coins, () -> model.w.coins);
@@ -190,17 +213,29 @@ public final class ModelTest {
         same("errorPosition()", depot::errorPosition, model::errorPosition);
         same("failedCommand()", depot::failedCommand, model::failedCommand);
         same("isConsistent()", depot::isConsistent, () -> true);
+    }
+
+    private void compareRacks() {
         for (int i = -1; i <= 3; i++) {
             compareRack(i);
         }
+    }
+
+    private void compareHammers() {
         for (int i = -1; i <= model.hammerCount(); i++) {
             compareHammer(i);
         }
+    }
+
+    private void compareChords() {
         for (int i = 0; i <= 6; i++) {
             int size = i;
             same("bestChord(" + size + ")", () -> depot.bestChord(size), () -> model.bestChord(size));
             same("bestChordBySets(" + size + ")", () -> depot.bestChordBySets(size), () -> model.bestChord(size));
         }
+    }
+
+    private void compareRequests() {
         for (int i = -1; i <= model.requestCount(); i++) {
             int position = i;
             same("requestAt(" + position + ")", () -> depot.requestAt(position), () -> model.requestAt(position));
@@ -253,15 +288,30 @@ public final class ModelTest {
         same("bestHammer(" + q + ")", () -> depot.bestHammer(q), () -> model.bestHammer(q));
     }
 
+    /** Changes for some of the calls, with a look now and then, and a look at everything for the rest. */
+    private void go() {
+        int changing = from(20, CALLS - 100);
+        while (calls < changing && !failed) {
+            step();
+            if (below(9) == 0) {
+                compareHammer(hammer());
+            }
+            if (below(9) == 0) {
+                same("mostGrants()", depot::mostGrants, model::mostGrants);
+                compareRequest(requestId());
+            }
+        }
+        if (below(2) == 0) {
+            compareAll();
+        } else {
+            compareAllBackwards();
+        }
+    }
+
     public static void main(String[] args) {
         for (int run = 0; run < RUNS; run++) {
             ModelTest test = new ModelTest(run);
-            for (int call = 0; call < CALLS && !test.failed; call++) {
-                test.step();
-                if (call % 8 == 0) {
-                    test.compareAll();
-                }
-            }
+            test.go();
             if (test.failed) {
                 System.out.println("run " + run + ":\n" + test.told);
                 break;
