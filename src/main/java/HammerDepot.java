@@ -1448,10 +1448,9 @@ public final class HammerDepot {
         private int consonanceOf(int set) {
             int sum = 0;
             for (int one = 0; one < count; one++) {
-                for (int other = one + 1; other < count; other++) {
-                    if ((set & 1 << one) != 0 && (set & 1 << other) != 0) {
-                        sum += pair(one, other);
-                    }
+                if ((set & 1 << one) != 0) {
+                    // The hammers below this one alone, so that each pair counts once.
+                    sum += withChosen(one, set & (1 << one) - 1);
                 }
             }
             return sum;
