@@ -369,6 +369,14 @@ final class SoundSentences {
                 d.swapPlaces(1, 2, 5);
                 Check.due("and an open one", swaps.read(d, 1), 2);
             })
+            .test("cycles of places that are no neighbours", d -> {
+                Depots.into(d, 0, 3, 2, 1);
+                Check.due("one around a sorted hammer", swaps.read(d, 0), 1);
+                Depots.into(d, 1, 4, 5, 6, 1, 2, 3);
+                Check.due("three that are interlaced", swaps.read(d, 1), 3);
+                d.swapPlaces(1, 1, 2);
+                Check.due("one of two and one of four", swaps.read(d, 1), 4);
+            })
             .test("a cycle that passes a free place is not closed", d -> {
                 Depots.into(d, 0, 1, 2, 3);
                 d.swapPlaces(0, 0, 3);

@@ -572,6 +572,17 @@ final class TermsSentences {
                 Check.due("hammer 0", d.borrower(0), 1);
                 Check.due("hammer 1", d.borrower(1), 0);
             })
+            .test("not the first hammer if two others need it", d -> {
+                Depots.into(d, 0, 30, 32, 28);
+                d.request(0, 29, 1, 1, 1);
+                d.request(1, 31, 1, 1, 1);
+                d.request(2, 31, 1, 1, 1);
+                Check.due("grantMost", d.grantMost(), 3);
+                d.passDays(1);
+                Check.due("hammer 0", d.borrower(0), 1);
+                Check.due("hammer 1", d.borrower(1), 2);
+                Check.due("hammer 2", d.borrower(2), 0);
+            })
             .test("the requests in the order of their ids", d -> {
                 d.addHammer(30, 0);
                 d.request(1, 30, 0, 9, 9);
