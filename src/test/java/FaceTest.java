@@ -62,6 +62,16 @@ public final class FaceTest {
         return face;
     }
 
+    static Set<String> namesOfTheFace() {
+        Set<String> names = new TreeSet<>();
+        for (Method method : HammerDepot.class.getDeclaredMethods()) {
+            if (Modifier.isPublic(method.getModifiers())) {
+                names.add(method.getName());
+            }
+        }
+        return names;
+    }
+
     private static void onlyPrivateFields() {
         for (Member field : HammerDepot.class.getDeclaredFields()) {
             Check.due("private field " + field.getName(), isFree(field), true);
