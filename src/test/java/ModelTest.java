@@ -34,40 +34,46 @@ public final class ModelTest {
         return below(25) == 0;
     }
 
+    /** Now and then a number far outside of any range, else a number near its edge. */
+    private int strange(int near) {
+        int[] far = {Integer.MIN_VALUE, Integer.MIN_VALUE + 1, -(1 << 30), 1 << 16, 1 << 30, Integer.MAX_VALUE - 40, Integer.MAX_VALUE};
+        return below(2) == 0 ? far[below(far.length)] : near;
+    }
+
     private int hammer() {
-        return rarely() ? from(-1, 13) : below(Math.max(1, model.hammerCount()));
+        return rarely() ? strange(from(-1, 13)) : below(Math.max(1, model.hammerCount()));
     }
 
     private int rack() {
-        return rarely() ? from(-1, 3) : below(3);
+        return rarely() ? strange(from(-1, 3)) : below(3);
     }
 
     private int place() {
-        return rarely() ? from(-1, 6) : below(6);
+        return rarely() ? strange(from(-1, 6)) : below(6);
     }
 
     private int pitch() {
         if (rarely()) {
-            return from(-1, 61);
+            return strange(from(-1, 61));
         }
         return mood == 0 ? below(61) : mood == 1 ? 12 * below(4) : 20 + below(12);
     }
 
     private int requestId() {
         int count = model.requestCount();
-        return rarely() || count == 0 ? from(-1, 40) : model.requestAt(below(count));
+        return rarely() || count == 0 ? strange(from(-1, 40)) : model.requestAt(below(count));
     }
 
     private int strikes() {
         if (rarely()) {
-            return below(2) == 0 ? 1000 : -1;
+            return strange(below(2) == 0 ? 1000 : -1);
         }
         // In one mood faces wear off so fast that the coins do not last.
         return mood == 2 ? 500 + below(500) : below(4) == 0 ? below(1000) : below(200);
     }
 
     private int days() {
-        return rarely() ? from(-1, 31) : mood == 3 ? from(1, 12) : from(1, 4);
+        return rarely() ? strange(from(-1, 31)) : mood == 3 ? from(1, 12) : from(1, 4);
     }
 
     private void same(String what, Check.Call mine, Check.Call due) {
@@ -117,11 +123,11 @@ public final class ModelTest {
     }
 
     private void ask() {
-        int b = rarely() ? from(-1, 10) : below(10);
+        int b = rarely() ? strange(from(-1, 10)) : below(10);
         int p = pitch();
-        int t = rarely() ? from(-1, 13) : below(mood == 2 ? 4 : 13);
-        int first = model.w.day + (rarely() ? from(-1, 42) : from(1, 8));
-        int last = rarely() ? model.w.day + from(38, 43) : first + (rarely() ? from(-1, 20) : below(4));
+        int t = rarely() ? strange(from(-1, 13)) : below(mood == 2 ? 4 : 13);
+        int first = rarely() ? strange(model.w.day + from(-1, 42)) : model.w.day + from(1, 8);
+        int last = rarely() ? strange(model.w.day + from(38, 43)) : first + (rarely() ? from(-1, 20) : below(4));
         same("request(" + b + ", " + p + ", " + t + ", " + first + ", " + last + ")",
                 () -> depot.request(b, p, t, first, last), () -> model.request(b, p, t, first, last));
     }
@@ -247,9 +253,9 @@ public final class ModelTest {
         same("swapsToSort(" + r + ")", () -> depot.swapsToSort(r), () -> model.swapsToSort(r));
         same("swapsToSortByCycles(" + r + ")", () -> depot.swapsToSortByCycles(r), () -> model.swapsToSort(r));
         same("loudestPitch(" + r + ")", () -> depot.loudestPitch(r), () -> model.loudestPitch(r));
-        int pitch = from(-2, 90);
+        int pitch = rarely() ? strange(-1) : from(-2, 90);
         same("loudness(" + r + ", " + pitch + ")", () -> depot.loudness(r, pitch), () -> model.loudness(r, pitch));
-        int place = from(-1, 6);
+        int place = rarely() ? strange(-1) : from(-1, 6);
         same("hammerAt(" + r + ", " + place + ")", () -> depot.hammerAt(r, place), () -> model.hammerAt(r, place));
         same("renderRack(" + r + ")", () -> depot.renderRack(r), () -> model.renderRack(r));
         compareOutput();
@@ -274,7 +280,7 @@ public final class ModelTest {
         same("hammerByWear(" + h + ")", () -> depot.hammerByWear(h), () -> model.hammerByWear(h));
         int other = hammer();
         same("consonance(" + h + ", " + other + ")", () -> depot.consonance(h, other), () -> model.consonance(h, other));
-        int day = model.w.day + from(-1, 12);
+        int day = rarely() ? strange(-1) : model.w.day + from(-1, 12);
         same("isBooked(" + h + ", " + day + ")", () -> depot.isBooked(h, day), () -> model.isBooked(h, day));
         int q = requestId();
         same("fits(" + q + ", " + h + ")", () -> depot.fits(q, h), () -> model.fits(q, h));
